@@ -19,7 +19,7 @@ public final class PaintedWalls {
     private static final int TAPE = 200, MOST_FED = 8;
     private static final int MOST_ROWS = 10, ROW_PARTS = 3;
     private static final int SHEETS = 4, MOST_ITEMS = 40, MISSING = -1;
-    private static final int BYTES = 0, SHORTS = 1, LONGS = 3, SORTS = 4;
+    private static final int BYTES = 0, SHORTS = 1, SORTS = 4;
     private static final int SHELVES = 4, HOLDS_NOTHING = 0, HOLDS_NAME = 1, HOLDS_ROW = 2, ROW_AS = 10;
     private static final int MOST_TRACE = 30, ACTS = 4;
     private static final int WALL_SETS = 1 << WALLS;
@@ -300,7 +300,7 @@ public final class PaintedWalls {
     /** Of the first so many choices the least with which VIEW by n is least; one: whose GROUND or KIND it is. */
     private int bestOf(int means, int one, int choices, int n) {
         int best = 0;
-        int least = Integer.MAX_VALUE;
+        int least = 0;
         for (int choice = 0; choice < choices; choice++) {
             tried.become(now);
             switch (means) {
@@ -309,7 +309,7 @@ public final class PaintedWalls {
                 default: tried.kind[one] = choice; break;
             }
             int gained = tried.gainedBy(n);
-            if (gained < least) {
+            if (choice == 0 || gained < least) {
                 least = gained;
                 best = choice;
             }

@@ -177,6 +177,12 @@ public final class ThingsTest {
         x.name(0, 0, 0, 0);
         x.shelf(1, 0, 0);
         due("one in its stead", 0, x.taken(1, 0));
+        due("no row there", -13, x.taken(1, 11));
+        x.town();
+        due("nor when there is no such one", -11, x.taken(1, 11));
+        due("a row before", 21, x.taken(3, 13));
+        x.shelf(3, 2, 0);
+        due("nothing", -11, x.taken(3, 13));
     }
 
     private static void act(PaintedWalls x, int act, int at, int want, int... trace) {
@@ -221,6 +227,7 @@ public final class ThingsTest {
         act(x, 0, 10, 72, 10);
         act(x, 1, 10, 47, 11, 10);
         act(x, 2, 10, 3 ^ 16, 61, 12, 10);
+        act(x, 2, -10, -3 ^ 16, 61, 12, 10);
         act(x, 3, 10, 3 - (47 ^ 190), 60, 13, 11, 10);
         // covered: number 2 by 1 leaves 2, told apart from nothing
         x.mind(2, 2, 3);
@@ -307,6 +314,8 @@ public final class ThingsTest {
         for (int times = 0; times < 2; times++) {
             x.nights(9);
             x.night();
+            x.set(0, 0);
+            x.nights(9);
             x.name(5, 1, 1, 1);
             x.mind(0, 0, 0);
             x.wall(3, 0, 1);
@@ -320,6 +329,12 @@ public final class ThingsTest {
         x.town();
         x.keep();
         due("what was kept latest", 0, x.again());
+        x.name(0, 0, 0, 0);
+        x.move(0, 10);
+        x.nights(2);
+        x.again();
+        x.name(0, 0, 0, 0);
+        due("a new one was not away", 0, x.of(0, 4));
     }
 
     private static int[] all(PaintedWalls x) {

@@ -162,6 +162,23 @@ public final class TownTest {
         fault("scrub 100;", 6);
         fault("fear 100;", 5);
         fault("fear;", 4);
+        fault("name on name on 3;", 8);
+        fault("name on 3 hand name on 3;", 15);
+        fault("name on 3 size name on 3;", 15);
+        fault("name on 3 fear 3;", 10);
+        fault("wall fear 3;", 5);
+        fault("wall 3 fear 3;", 7);
+        fault("wall 3 wax fear 3;", 11);
+        fault("wall 3 wax seen fear 3;", 16);
+        fault("fear fear 3;", 5);
+        fault("wall 3 cax;", 7);
+        fault("gept on 1;", 0);
+        fault("mall 1 old;", 0);
+        fault("wall 1 wax hand 1;", 11);
+        fault("name on 1 seen 1;", 10);
+        fault("kepta on 1;", 0);
+        fault("-1", 0);
+        fault("name on -1;", 8);
         fault("fear 5 5;", 7);
         fault("lure 1; on 3;", 8);
         fault("name on 1;fresh on 1;covered on 1;kept on 1;name on 1;name on 1;name on 1;name on 1; grown on x;", 85);
@@ -176,6 +193,15 @@ public final class TownTest {
         due("eight", 8, Check.town(x, "name on 1;fresh on 1;covered on 1;tempted on 1;grown on 1;kept on 1;name on 2;name on 3;fear 99;"));
         for (int kind = 0; kind < 6; kind++) { due("kind", new int[] {0, 1, 2, 3, 4, 5}[kind], x.of(kind, 0)); }
         due("fear", 99, x.lawOf(3));
+        due("walls", 0, Check.town(x, "wall 0 wax seen 0;wall 9 grey seen 9;"));
+        due("wall 0", 2, x.wallOf(0, 0));
+        due("seen", 0, x.wallOf(0, 1));
+        due("wall 9", 1, x.wallOf(9, 0));
+        due("seen", 9, x.wallOf(9, 1));
+        due("by the last text alone", 0, Check.town(x, "wall 3 old;"));
+        due("wall 0", 0, x.wallOf(0, 0));
+        due("seen", 3, x.wallOf(0, 1));
+        due("wall 9", 0, x.wallOf(9, 0));
         due("a law told twice", 0, Check.town(x, "buckets 3;buckets 0;scrub 99;fear 0;"));
         due("buckets", 0, x.lawOf(0));
         due("scrub", 99, x.lawOf(2));
@@ -261,6 +287,11 @@ public final class TownTest {
         does(x, 5, 0, 99, 9);
         x.wall(2, 0, 2);
         does(x, 3, 4, 6, 1);
+        x.mind(0, 4, 8);
+        due("grown back by hand 8", 1005, x.does(0, 2));
+        x.mind(0, 4, 9);
+        due("grown back by hand 9", 1006, x.does(0, 2));
+        x.mind(0, 3, 7);
         x.move(0, 10);
         due("gone grows", -3, x.does(0, 0));
         due("gone holds", -3, x.does(0, 1));
@@ -438,6 +469,13 @@ public final class TownTest {
         y.nights(1);
         due("no looks, not cleaned", 0, y.state(3));
         due("nor grey", 0, y.state(5));
+        y.wall(0, 1, 1);
+        y.mind(0, 2, 0);
+        y.name(5, 0, 0, 0);
+        y.paint(0, 0);
+        y.set(2, 5);
+        y.nights(1);
+        due("one look is enough", 0b1, y.state(3));
         // a wall may be cleaned twice a night: the grown one holds less once the other has gone
         PaintedWalls z = new PaintedWalls();
         z.name(4, 0, 38, 0);
@@ -478,6 +516,18 @@ public final class TownTest {
         z = (-5 * 1103515245 + 12345) * 1103515245 + 12345;
         due("drawn without fear too", z, x.seed(0));
         for (int i = 0; i < 3; i++) { due("no one frightened", sizes[i], x.of(i, 2)); }
+        // fear just as it is drawn does not frighten, one more does
+        for (int seed = 1; seed < 40; seed++) {
+            int drawn = ((seed * 1103515245 + 12345) * 1103515245 + 12345 >>> 16) % 100;
+            for (int law = drawn; law <= drawn + 1 && law <= 99; law++) {
+                PaintedWalls w = new PaintedWalls();
+                w.name(5, 0, 80, 0);
+                w.set(3, law);
+                w.seed(seed);
+                w.night();
+                due("drawn " + drawn + ", fear " + law, drawn < law ? 40 : 80, w.of(0, 2));
+            }
+        }
         PaintedWalls y = new PaintedWalls();
         y.set(3, 99);
         y.name(5, 0, 90, 0);
@@ -506,6 +556,17 @@ public final class TownTest {
         due("shy", count, x.shy(30));
         CHECK.isTrue("some, not all", count > 0 && count < 30);
         due("the same again, as z stays", count, x.shy(30));
+        int once = 0;
+        for (int z = 1; z <= 20; z++) {
+            x.seed(z);
+            int shy = x.shy(1);
+            x.keep();
+            due("shy(1) with z " + z, x.night() < 240 ? 1 : 0, shy);
+            x.again();
+            once += shy;
+        }
+        CHECK.isTrue("some of them, not all", once > 0 && once < 20);
+        x.seed(1);
         due("z", 1, x.seed(1));
         due("size", 80, x.of(0, 2));
         due("nights", 0, x.state(0));
@@ -525,7 +586,12 @@ public final class TownTest {
         int[] want = {0, 0, 15, 0b1010, 1 << 9 | 1, 1 << 7 | 1 << 1, -1};
         for (int what = 0; what < 7; what++) { due("state", want[what], x.state(what)); }
         due("state -1", -1, x.state(-1));
+        x.wall(0, 0, 1);
+        x.wall(9, 0, 1);
+        due("grey", 0b1010000011, x.state(5));
         due("walls with looks", 2, x.many(2));
+        x.wall(9, 1, 1);
+        due("one look is one", 2, x.many(2));
         x.wall(9, 1, 0);
         due("not seen", 1, x.many(2));
         due("gone", 2, x.many(1));

@@ -92,6 +92,14 @@ public final class TriedTest {
         due("never", -3, x.clear());
         for (int wall = 0; wall < 10; wall++) { x.wall(wall, 1, 0); }
         due("not seen", 0, x.clear());
+        // covered by three others that have no size it shrinks by 1 a night
+        PaintedWalls y = new PaintedWalls();
+        y.set(2, 0);
+        y.name(2, 0, 60, 0);
+        for (int i = 0; i < 3; i++) { y.name(5, 0, 0, 0); }
+        due("behind sixty", 60, y.clear());
+        y.paint(0, 61);
+        due("not by then", -3, y.clear());
     }
 
     private static void firstFor() {
@@ -135,6 +143,10 @@ public final class TriedTest {
         due("name is cleaned at once, as are others: the least", 0, x.kindFor(0, 1));
         x.set(0, 0);
         due("kept does not grow", 5, x.kindFor(0, 1));
+        due("30", 5, x.kindFor(0, 30));
+        x.wall(0, 1, 0);
+        due("not seen: the least", 0, x.kindFor(0, 30));
+        x.wall(0, 1, 3);
         x.name(5, 0, 9, 0);
         x.name(5, 0, 9, 0);
         x.name(5, 0, 9, 0);
@@ -157,6 +169,17 @@ public final class TriedTest {
         due("with none", -3, x.bucketsFor(1, 2));
         due("but for the kept one", 4, x.bucketsFor(1, 3));
         due("v 99999", 0, x.bucketsFor(1, 99999));
+        due("n 30", 0, x.bucketsFor(30, 99999));
+        // grown ones keep one another: the last of eight goes with the ninth bucket
+        PaintedWalls y = new PaintedWalls();
+        for (int i = 0; i < 7; i++) { y.name(4, 9, 20 - 2 * i, 0); }
+        y.set(2, 12);
+        int least = -3;
+        for (int b = 9; b >= 0; b--) {
+            y.set(0, b);
+            if (y.view(1) == 0) { least = b; }
+        }
+        due("tried by hand", least, y.bucketsFor(1, 0));
         due("buckets", 1, x.lawOf(0));
     }
 
@@ -167,6 +190,7 @@ public final class TriedTest {
         due("v -1", -1, x.waxedFor(1, -1));
         due("v 100000", -1, x.waxedFor(1, 100000));
         due("none", 0, x.waxedFor(10, 0));
+        due("v 99999", 0, x.waxedFor(10, 99999));
         x.set(2, 0);
         for (int wall = 2; wall < 9; wall += 2) { x.name(0, 0, 12, wall); }
         x.set(0, 2);
@@ -187,6 +211,10 @@ public final class TriedTest {
         for (int i = 0; i < 8; i++) { y.name(0, 0, 90, 9 - i); }
         due("eight", 1020, y.waxedFor(1, 0));
         due("all nights", 1020, y.waxedFor(3, 0));
+        for (int i = 0; i < 8; i++) { y.move(i, i < 4 ? i : i + 2); }
+        due("walls 0 and 9 too", 0b1111001111, y.waxedFor(3, 0));
+        for (int i = 1; i < 8; i++) { y.move(i, 0); }
+        due("wall 0 alone", 1, y.waxedFor(3, 0));
     }
 
     private static void hands() {
@@ -207,6 +235,9 @@ public final class TriedTest {
         due("what 2", -1, x.hands(2, 0));
         due("what -1", -1, x.hands(-1, 0));
         due("many", 3, x.many(3));
+        x.mind(0, 0, 9);
+        due("by another hand", 4, x.hands(0, 0));
+        due("same", 0b1, x.hands(1, 0));
     }
 
     private static void fits() {
