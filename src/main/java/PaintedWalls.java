@@ -777,7 +777,7 @@ public final class PaintedWalls {
         // ---- what one does
 
         int growsOf(int name) {
-            int lured = ground[on[name]] == GREY ? laws[LURE] : 0;
+            int lured = on[name] != GONE && ground[on[name]] == GREY ? laws[LURE] : 0;
             switch (kind[name]) {
                 case FRESH: return 2 + lured;
                 case TEMPTED: return (2 + lured) * 2;

@@ -16,6 +16,7 @@ public final class LanguageTest {
     public static void main(String[] args) throws Exception {
         face();
         source();
+        sizes();
         wildCalls();
         CHECK.end();
     }
@@ -72,6 +73,45 @@ public final class LanguageTest {
         }
         Matcher stat = Pattern.compile("\\bstatic\\b(?! final| class)([^;{]*)[;{]").matcher(code);
         while (stat.find()) { CHECK.isTrue("static" + stat.group(1) + " is a method", stat.group(1).contains("(")); }
+    }
+
+    /** Rule 11: classes, fields beside constants, parameters, lines of a method. */
+    private static void sizes() throws Exception {
+        CHECK.isTrue("twelve classes at most", PaintedWalls.class.getDeclaredClasses().length < 12);
+        fields(PaintedWalls.class);
+        for (Class<?> inside : PaintedWalls.class.getDeclaredClasses()) {
+            fields(inside);
+            for (Method method : inside.getDeclaredMethods()) {
+                CHECK.isTrue(method + " takes seven at most", method.getParameterCount() <= 7);
+            }
+        }
+        int begun = 0;
+        int at = 0;
+        String end = "";
+        for (String line : Files.readAllLines(Path.of("src/main/java/PaintedWalls.java"))) {
+            at++;
+            boolean isHead = line.matches("( {4}){1,2}[a-zA-Z].*\\) \\{") && !line.matches(" *(if|for|while|switch|else)\\b.*");
+            if (isHead && begun == 0) {
+                begun = at;
+                end = line.substring(0, line.length() - line.stripLeading().length()) + "}";
+            } else if (begun > 0 && line.equals(end)) {
+                CHECK.isTrue("the method at line " + begun + " has sixty lines at most", at - begun < 60);
+                begun = 0;
+            }
+        }
+        CHECK.due("every method has an end", 0, begun);
+    }
+
+    private static void fields(Class<?> one) {
+        int count = 0;
+        for (java.lang.reflect.Field field : one.getDeclaredFields()) {
+            if (Modifier.isStatic(field.getModifiers())) {
+                CHECK.isTrue(field + " is final", Modifier.isFinal(field.getModifiers()));
+            } else {
+                count++;
+            }
+        }
+        CHECK.isTrue(one + " has twenty fields at most", count <= 20);
     }
 
     /** Any arguments in any state: what is thrown ends this test. */

@@ -4,7 +4,9 @@ import java.util.Random;
 
 /** Random runs of calls: the class and the model must answer the same, call by call. */
 public final class ModelTest {
-    private static final int RUNS = 400;
+    private static final int RUNS = 450;
+    /** An object is used for at most 512 calls; a step makes some thirty at most. */
+    private static final int CALLS = 480;
     private static final String[] WORDS = {"name", "fresh", "covered", "tempted", "grown", "kept", "on", "hand", "size",
         "wall", "old", "grey", "wax", "seen", "buckets", "lure", "scrub", "fear", ";", " ", "0", "3", "9", "10", "099",
         "0001", "100", "7", "x", "names", "A", "\n", "\u00e9"};
@@ -13,7 +15,7 @@ public final class ModelTest {
     private final Check check;
     private final PaintedWalls real = new PaintedWalls();
     private final Model model = new Model();
-    private String call = "";
+    private int asked = 0;
 
     private ModelTest(long seed, Check check) {
         random = new Random(seed);
@@ -29,17 +31,10 @@ public final class ModelTest {
     }
 
     private void run(int seed) {
-        int calls = 0;
         if (seed % 3 == 0) {
-            for (String part : cut(randomText(seed % 2 == 0))) {
-                feed(part, seed);
-                calls++;
-            }
+            for (String part : cut(randomText(seed % 2 == 0))) { feed(part, seed); }
         }
-        while (calls < 500) {
-            step(random.nextInt(60), seed);
-            calls++;
-        }
+        while (asked < CALLS) { step(random.nextInt(60), seed); }
     }
 
     private static List<String> cut(String text) {
@@ -94,6 +89,7 @@ public final class ModelTest {
 
     private void same(int seed, String told, Call got, Call want) {
         long due;
+        asked++;
         try {
             due = want.answer();
         } catch (Model.Refused r) {
