@@ -18,6 +18,7 @@ public final class EdgeTest {
         holdsByLureAndHand();
         holdsByOthers();
         backByHand();
+        eachOfEight();
         mindKeepsTheRest();
         moveAndAway();
         wallsAtTheirEnds();
@@ -210,6 +211,27 @@ public final class EdgeTest {
                 does(x, "back, kind " + kind + " by " + hand, 0, 2, backOf(kind, hand));
                 x.move(0, GONE);
                 does(x, "gone: back, kind " + kind + " by " + hand, 0, 2, backOf(kind, hand));
+            }
+        }
+    }
+
+    /** What one does is its own, whatever the others are, ON walls or GONE. */
+    private static void eachOfEight() {
+        for (int gone = -1; gone < 8; gone++) {
+            PaintedWalls x = new PaintedWalls();
+            x.set(1, 9);
+            for (int i = 0; i < 8; i++) {
+                x.name(i % 6, i, 10 * i, i);
+                x.wall(i, 0, 1);
+            }
+            if (gone >= 0) { x.move(gone, GONE); }
+            int[] grows = {2, 11, 2, 22, 5, 0, 2, 11};
+            int[] holds = {0, -4, 15, 9, 25, 99, 30, 26};
+            int[] back = {3, 1, 5, 1, 3, 9, 3, 1};
+            for (int i = 0; i < 8; i++) {
+                due("grows of " + i, i == gone ? -3 : 1000 + grows[i], x.does(i, 0));
+                due("holds of " + i, i == gone ? -3 : 1000 + holds[i], x.does(i, 1));
+                does(x, "back of " + i, i, 2, back[i]);
             }
         }
     }
